@@ -82,7 +82,9 @@ public final class HeardSecond {
             case 2: return isIn(seat, now.out) ? 1 : 0;
             case 3: return bench.counts(seat, now.last, now.out) ? 1 : 0;
             case 4: return at(now.words, seat);
-            case 5: return outlook.fewestWords(seat);
+            case 5:
+                outlook.aimAt(seat);
+                return outlook.fewestWords(seat);
             default: return OUTSIDE;
         }
     }
@@ -116,6 +118,7 @@ public final class HeardSecond {
         if (what != 0 && what != 1) {
             return OUTSIDE;
         }
+        outlook.aimAt(seat);
         return what == 0 ? outlook.fewestWords(seat) : outlook.firstSpeaker(seat);
     }
 
@@ -224,9 +227,21 @@ public final class HeardSecond {
     }
 
     public long digest() {
-        long h = digestSeats(907L);
+        long h = 907L;
+        for (int seat = 0; seat < bench.seats; seat++) {
+            for (int what = 0; what < SEAT_WHATS; what++) {
+                h = 31L * h + seat(seat, what);
+            }
+            h = 31L * h + get(seat, 1);
+        }
         if (bench.isSet()) {
-            h = digestOutlook(h);
+            for (int breaths = 1; breaths <= DIGEST_PLAYS; breaths++) {
+                h = 31L * (31L * h + play(breaths, 0)) + play(breaths, 1);
+            }
+            for (int words = 0; words <= DIGEST_ROWS; words++) {
+                h = 31L * (31L * h + rows(words, 0)) + rows(words, 1);
+            }
+            h = 31L * h + when();
         }
         for (int place = 0; place < page.length; place++) {
             h = 31L * h + page.codeAt(place);
@@ -238,30 +253,6 @@ public final class HeardSecond {
     }
 
     // ---- what the calls share
-
-    private long digestSeats(long start) {
-        long h = start;
-        for (int seat = 0; seat < bench.seats; seat++) {
-            for (int what = 0; what < SEAT_WHATS; what++) {
-                h = 31L * h + seat(seat, what);
-            }
-            h = 31L * h + get(seat, 1);
-        }
-        return h;
-    }
-
-    private long digestOutlook(long start) {
-        long h = start;
-        for (int breaths = 1; breaths <= DIGEST_PLAYS; breaths++) {
-            h = 31L * h + play(breaths, 0);
-            h = 31L * h + play(breaths, 1);
-        }
-        for (int words = 0; words <= DIGEST_ROWS; words++) {
-            h = 31L * h + rows(words, 0);
-            h = 31L * h + rows(words, 1);
-        }
-        return 31L * h + when();
-    }
 
     /** Draws the breaths of the trial that is tried out; answers the seed behind them. */
     private int runSessions(int breaths, int seed) {
@@ -392,7 +383,7 @@ public final class HeardSecond {
         private int seats;
         private int patience;
 
-        /** Takes the court from a page that is a whole one: three letters are of each seat, the last one is the patience. */
+        /** Of a page that is a whole court each seat has three letters, and the last letter is the patience. */
         void sitDown(Page page) {
             if (page == null) {
                 return;
@@ -418,11 +409,11 @@ public final class HeardSecond {
         }
 
         int kindAt(int seat) {
-            return has(seat) ? at(kinds, seat) : NONE;
+            return seat >= 0 && seat < seats && seat < kinds.length ? kinds[seat] : NONE;
         }
 
         int sideAt(int seat) {
-            return has(seat) ? at(sides, seat) : NONE;
+            return seat >= 0 && seat < seats && seat < sides.length ? sides[seat] : NONE;
         }
 
         boolean isOf(int seat, int kind) {
@@ -431,15 +422,16 @@ public final class HeardSecond {
         }
 
         boolean counts(int seat, int last, int out) {
-            if (!has(seat) || isIn(seat, out) || isOf(seat, MUTE)) {
+            int kind = kindAt(seat);
+            if (kind == NONE || kind == MUTE || isIn(seat, out)) {
                 return false;
             }
-            return !isOf(seat, WHISPERER) || sitsBeside(last, seat);
+            return kind != WHISPERER || sitsBeside(last, seat);
         }
 
         /** The wall and nobody sit beside nobody, though their numbers stand beside those of seats. */
         private boolean sitsBeside(int last, int seat) {
-            return has(last) && (last == seat - 1 || last == seat + 1);
+            return last >= 0 && last < seats && (last == seat - 1 || last == seat + 1);
         }
 
         /** Who is believed behind a word of a seat that is not the last one. */
@@ -584,15 +576,19 @@ public final class HeardSecond {
     }
 
     /**
-     * What words could come from now on, each by one alone. Who is out stays so, and a word that
-     * changes something does so by its speaker and the last one alone: so the rows are kept by the last one.
+     * What words could come from now on, each by one alone. Who is out stays so, and what a word does hangs on
+     * its speaker and the last one alone: a table by these two tells it, made anew for each question.
      */
     private static final class Outlook {
+        private static final int NO_WORD = -2;
+
         private final Bench bench;
         private final Trial now;
+        private final int[] lastThen = new int[LASTS * MOST_SEATS];
+        private final int[] believedThen = new int[LASTS * MOST_SEATS];
         private final int[] steps = new int[LASTS];
         private final int[] worths = new int[LASTS * BELIEFS];
-        private final int[] earlier = new int[LASTS * BELIEFS];
+        private final int[] earlierWorths = new int[LASTS * BELIEFS];
         private final int[] ways = new int[(MOST_ROW_WORDS + 1) * LASTS];
         private final int[] endings = new int[(MOST_ROW_WORDS + 1) * LASTS];
         private final int[] left = new int[BELIEFS];
@@ -602,24 +598,48 @@ public final class HeardSecond {
             this.now = now;
         }
 
-        private boolean canFollow(int seat, int last) {
-            return seat != last && bench.counts(seat, last, now.out);
+        private void tableWords() {
+            for (int last = NONE; last <= WALL; last++) {
+                for (int seat = 0; seat < MOST_SEATS; seat++) {
+                    boolean can = seat != last && bench.counts(seat, last, now.out);
+                    put(lastThen, wordPlace(last, seat), can ? bench.lastBehind(seat) : NO_WORD);
+                    put(believedThen, wordPlace(last, seat), can ? bench.believedBehind(seat, last) : NONE);
+                }
+            }
+        }
+
+        private static int wordPlace(int last, int seat) {
+            return (last + 1) * MOST_SEATS + seat;
         }
 
         // -- by how few words a seat is believed
+
+        /** A shortest way has no last one twice, so as many rounds as there are last ones find it. */
+        void aimAt(int target) {
+            tableWords();
+            fill(steps, FAR);
+            for (int round = 0; round < LASTS; round++) {
+                for (int last = NONE; last <= WALL; last++) {
+                    int fewest = FAR;
+                    for (int seat = 0; seat < MOST_SEATS; seat++) {
+                        fewest = Math.min(fewest, stepsBy(seat, last, target));
+                    }
+                    put(steps, last + 1, fewest);
+                }
+            }
+        }
 
         int fewestWords(int target) {
             if (now.believed == target) {
                 return 0;
             }
-            measureSteps(target);
             int fewest = at(steps, now.last + 1);
             return fewest < FAR ? fewest : NONE;
         }
 
         int firstSpeaker(int target) {
             int fewest = fewestWords(target);
-            if (fewest < 1) {
+            if (fewest == NONE || fewest == 0) {
                 return NONE;
             }
             for (int seat = 0; seat < MOST_SEATS; seat++) {
@@ -630,37 +650,25 @@ public final class HeardSecond {
             return NONE;
         }
 
-        /** A shortest way has no last one twice, so as many rounds as there are last ones find it. */
-        private void measureSteps(int target) {
-            fill(steps, FAR);
-            for (int round = 0; round < LASTS; round++) {
-                for (int last = NONE; last <= WALL; last++) {
-                    int fewest = at(steps, last + 1);
-                    for (int seat = 0; seat < MOST_SEATS; seat++) {
-                        fewest = Math.min(fewest, stepsBy(seat, last, target));
-                    }
-                    put(steps, last + 1, fewest);
-                }
-            }
-        }
-
         private int stepsBy(int seat, int last, int target) {
-            if (!canFollow(seat, last)) {
+            int word = wordPlace(last, seat);
+            if (at(lastThen, word) == NO_WORD) {
                 return FAR;
             }
-            if (bench.believedBehind(seat, last) == target) {
+            if (at(believedThen, word) == target) {
                 return 1;
             }
-            return Math.min(FAR, 1 + at(steps, bench.lastBehind(seat) + 1));
+            return Math.min(FAR, 1 + at(steps, at(lastThen, word) + 1));
         }
 
         // -- what is best to do by turns
 
-        /** Fills what each end of SIDE 0's first breath is worth when all the others have followed. */
+        /** Fills by what the first breath leaves how much it is worth when all the others have followed. */
         void weighReplies(int breaths) {
+            tableWords();
             for (int last = NONE; last <= WALL; last++) {
                 for (int believed = NONE; believed < MOST_SEATS; believed++) {
-                    put(worths, spot(last, believed), worthOf(believed));
+                    put(worths, worthPlace(last, believed), worthOfEnd(believed));
                 }
             }
             for (int breath = breaths - 1; breath > 0; breath--) {
@@ -672,14 +680,13 @@ public final class HeardSecond {
             return bestOf(0, now.last, now.believed);
         }
 
-        /** The last one's own word changes nothing: it is never better than nobody's. */
         int bestOpening() {
             int best = bestWorth();
-            if (at(worths, spot(now.last, now.believed)) == best) {
+            if (at(worths, worthPlace(now.last, now.believed)) == best) {
                 return NONE;
             }
             for (int seat = 0; seat < MOST_SEATS; seat++) {
-                if (isMoveOf(0, seat, now.last) && worthBehind(seat, now.last) == best) {
+                if (isTurnOf(0, seat, now.last) && worthBehind(seat, now.last) == best) {
                     return seat;
                 }
             }
@@ -689,16 +696,17 @@ public final class HeardSecond {
         private void weighBreath(int side) {
             for (int last = NONE; last <= WALL; last++) {
                 for (int believed = NONE; believed < MOST_SEATS; believed++) {
-                    put(earlier, spot(last, believed), bestOf(side, last, believed));
+                    put(earlierWorths, worthPlace(last, believed), bestOf(side, last, believed));
                 }
             }
-            copy(earlier, worths);
+            copy(earlierWorths, worths);
         }
 
+        /** The last one's own word is left out: it changes nothing, as if nobody spoke. */
         private int bestOf(int side, int last, int believed) {
-            int best = at(worths, spot(last, believed));
+            int best = at(worths, worthPlace(last, believed));
             for (int seat = 0; seat < MOST_SEATS; seat++) {
-                if (isMoveOf(side, seat, last)) {
+                if (isTurnOf(side, seat, last)) {
                     int worth = worthBehind(seat, last);
                     best = side == 0 ? Math.max(best, worth) : Math.min(best, worth);
                 }
@@ -706,15 +714,16 @@ public final class HeardSecond {
             return best;
         }
 
-        private boolean isMoveOf(int side, int seat, int last) {
-            return bench.sideAt(seat) == side && canFollow(seat, last);
+        private boolean isTurnOf(int side, int seat, int last) {
+            return bench.sideAt(seat) == side && at(lastThen, wordPlace(last, seat)) != NO_WORD;
         }
 
         private int worthBehind(int seat, int last) {
-            return at(worths, spot(bench.lastBehind(seat), bench.believedBehind(seat, last)));
+            int word = wordPlace(last, seat);
+            return at(worths, worthPlace(at(lastThen, word), at(believedThen, word)));
         }
 
-        private int worthOf(int believed) {
+        private int worthOfEnd(int believed) {
             switch (bench.sideAt(believed)) {
                 case 0: return 1;
                 case 1: return -1;
@@ -722,22 +731,23 @@ public final class HeardSecond {
             }
         }
 
-        private static int spot(int last, int believed) {
+        private static int worthPlace(int last, int believed) {
             return (last + 1) * BELIEFS + believed + 1;
         }
 
         // -- in how many ways words can be spoken
 
-        /** Fills for 0 to so many words by how many ways each is the last one behind them. */
+        /** Fills for 0 to so many words in how many ways each one is the last behind them. */
         void fillWays(int words) {
+            tableWords();
             fill(ways, 0);
-            put(ways, place(0, now.last), now.allows(0, now.believed) ? 1 : 0);
+            put(ways, rowPlace(0, now.last), now.allows(0, now.believed) ? 1 : 0);
             for (int word = 1; word <= words; word++) {
                 for (int last = NONE; last <= WALL; last++) {
                     for (int seat = 0; seat < MOST_SEATS; seat++) {
                         if (canBeWord(word, seat, last)) {
-                            int behind = place(word, bench.lastBehind(seat));
-                            put(ways, behind, at(ways, behind) + at(ways, place(word - 1, last)));
+                            int then = rowPlace(word, at(lastThen, wordPlace(last, seat)));
+                            put(ways, then, at(ways, then) + at(ways, rowPlace(word - 1, last)));
                         }
                     }
                 }
@@ -747,7 +757,7 @@ public final class HeardSecond {
         int waysOf(int words) {
             int sum = 0;
             for (int last = NONE; last <= WALL; last++) {
-                sum += at(ways, place(words, last));
+                sum += at(ways, rowPlace(words, last));
             }
             return sum;
         }
@@ -755,7 +765,7 @@ public final class HeardSecond {
         int lastsBehind(int words) {
             int bits = 0;
             for (int last = NONE; last <= WALL; last++) {
-                if (at(ways, place(words, last)) > 0) {
+                if (at(ways, rowPlace(words, last)) > 0) {
                     bits = bits | 1 << (last == NONE ? NOBODY_BIT : last);
                 }
             }
@@ -769,44 +779,49 @@ public final class HeardSecond {
             }
             fillEndings();
             int best = 1;
+            int fewest = mostLeft(1);
             for (int word = 2; word <= MOST_ROW_WORDS; word++) {
-                if (mostLeft(word) < mostLeft(best)) {
+                int most = mostLeft(word);
+                if (most < fewest) {
                     best = word;
+                    fewest = most;
                 }
             }
             return best;
         }
 
-        /** Fills for each number of words and each last one behind them by how many ways a row of 6 goes on. */
+        /** Fills for 0 to 6 words and each last one behind them in how many ways the row goes on to 6. */
         private void fillEndings() {
             fill(endings, 0);
             for (int last = NONE; last <= WALL; last++) {
-                put(endings, place(MOST_ROW_WORDS, last), 1);
+                put(endings, rowPlace(MOST_ROW_WORDS, last), 1);
             }
             for (int word = MOST_ROW_WORDS; word > 0; word--) {
                 for (int last = NONE; last <= WALL; last++) {
                     int sum = 0;
                     for (int seat = 0; seat < MOST_SEATS; seat++) {
                         if (canBeWord(word, seat, last)) {
-                            sum += at(endings, place(word, bench.lastBehind(seat)));
+                            sum += at(endings, rowPlace(word, at(lastThen, wordPlace(last, seat))));
                         }
                     }
-                    put(endings, place(word - 1, last), sum);
+                    put(endings, rowPlace(word - 1, last), sum);
                 }
             }
         }
 
-        /** How many rows of 6 are left at worst when it is known who is believed behind this word. */
+        /** How many rows of 6 are left at worst when it is seen who is believed behind this word. */
         private int mostLeft(int word) {
             fill(left, 0);
             int most = 0;
             for (int last = NONE; last <= WALL; last++) {
+                int before = at(ways, rowPlace(word - 1, last));
                 for (int seat = 0; seat < MOST_SEATS; seat++) {
                     if (canBeWord(word, seat, last)) {
-                        int group = bench.believedBehind(seat, last) + 1;
-                        int rowsBySeat = at(ways, place(word - 1, last)) * at(endings, place(word, bench.lastBehind(seat)));
-                        put(left, group, at(left, group) + rowsBySeat);
-                        most = Math.max(most, at(left, group));
+                        int place = wordPlace(last, seat);
+                        int group = at(believedThen, place) + 1;
+                        int sum = at(left, group) + before * at(endings, rowPlace(word, at(lastThen, place)));
+                        put(left, group, sum);
+                        most = Math.max(most, sum);
                     }
                 }
             }
@@ -814,10 +829,11 @@ public final class HeardSecond {
         }
 
         private boolean canBeWord(int word, int seat, int last) {
-            return canFollow(seat, last) && now.allows(word, bench.believedBehind(seat, last));
+            int place = wordPlace(last, seat);
+            return at(lastThen, place) != NO_WORD && now.allows(word, at(believedThen, place));
         }
 
-        private static int place(int words, int last) {
+        private static int rowPlace(int words, int last) {
             return words * LASTS + last + 1;
         }
     }
