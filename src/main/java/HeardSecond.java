@@ -20,7 +20,7 @@ public final class HeardSecond {
     private static final int SEAT_WHATS = 6, COUNT_WHATS = 12, SESSION_WHATS = 3;
     private static final int DIGEST_PLAYS = 4, DIGEST_ROWS = 4;
 
-    // More words than any shortest way has.
+    // More words than any shortest way has, and more than anything is worth.
     private static final int FAR = 1000;
 
     private final Page page = new Page();
@@ -637,11 +637,9 @@ public final class HeardSecond {
             return fewest < FAR ? fewest : NONE;
         }
 
+        /** No way by somebody's word has 0 words or NONE: then nobody is found. */
         int firstSpeaker(int target) {
             int fewest = fewestWords(target);
-            if (fewest == NONE || fewest == 0) {
-                return NONE;
-            }
             for (int seat = 0; seat < MOST_SEATS; seat++) {
                 if (stepsBy(seat, now.last, target) == fewest) {
                     return seat;
@@ -677,7 +675,7 @@ public final class HeardSecond {
         }
 
         int bestWorth() {
-            return bestOf(0, now.last, now.believed);
+            return better(0, at(worths, worthPlace(now.last, now.believed)), bestByWord(0, now.last));
         }
 
         int bestOpening() {
@@ -695,23 +693,31 @@ public final class HeardSecond {
 
         private void weighBreath(int side) {
             for (int last = NONE; last <= WALL; last++) {
+                int byWord = bestByWord(side, last);
                 for (int believed = NONE; believed < MOST_SEATS; believed++) {
-                    put(earlierWorths, worthPlace(last, believed), bestOf(side, last, believed));
+                    int place = worthPlace(last, believed);
+                    put(earlierWorths, place, better(side, at(worths, place), byWord));
                 }
             }
             copy(earlierWorths, worths);
         }
 
-        /** The last one's own word is left out: it changes nothing, as if nobody spoke. */
-        private int bestOf(int side, int last, int believed) {
-            int best = at(worths, worthPlace(last, believed));
+        /**
+         * Worse than all if none of the side can speak. The last one's own word is left out: it changes nothing,
+         * as if nobody spoke.
+         */
+        private int bestByWord(int side, int last) {
+            int best = side == 0 ? -FAR : FAR;
             for (int seat = 0; seat < MOST_SEATS; seat++) {
                 if (isTurnOf(side, seat, last)) {
-                    int worth = worthBehind(seat, last);
-                    best = side == 0 ? Math.max(best, worth) : Math.min(best, worth);
+                    best = better(side, best, worthBehind(seat, last));
                 }
             }
             return best;
+        }
+
+        private static int better(int side, int worth, int other) {
+            return side == 0 ? Math.max(worth, other) : Math.min(worth, other);
         }
 
         private boolean isTurnOf(int side, int seat, int last) {
@@ -790,13 +796,13 @@ public final class HeardSecond {
             return best;
         }
 
-        /** Fills for 0 to 6 words and each last one behind them in how many ways the row goes on to 6. */
+        /** Fills for 1 to 6 words and each last one behind them in how many ways the row goes on to 6. */
         private void fillEndings() {
             fill(endings, 0);
             for (int last = NONE; last <= WALL; last++) {
                 put(endings, rowPlace(MOST_ROW_WORDS, last), 1);
             }
-            for (int word = MOST_ROW_WORDS; word > 0; word--) {
+            for (int word = MOST_ROW_WORDS; word > 1; word--) {
                 for (int last = NONE; last <= WALL; last++) {
                     int sum = 0;
                     for (int seat = 0; seat < MOST_SEATS; seat++) {

@@ -151,6 +151,9 @@ public final class CourtTest {
         x.breath(1);
         x.breath(2);
         x.breath(0);
+        x.breath(2);
+        x.breath(1);
+        x.breath(0);
         x.breath(1);
         x.breath(2);
         x.breath(3);
@@ -160,7 +163,8 @@ public final class CourtTest {
         long before = x.digest();
         C.refused("court() of half a court", x, before, x.court(), S);
         C.due("the court there was", x.count(0), 5);
-        C.due("image goes on", x.restore(), 6);
+        C.due("image goes on", x.restore(), 9);
+        dueCases("each SIDE won one", x, 2, 1, 1);
         Checks.type(x, "w1;2");
         C.due("another court()", x.court(), 2);
         int[] due = {2, 2, -1, -1, 0, 0, 0, 0, 0, 0, 0, 2};

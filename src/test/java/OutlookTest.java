@@ -99,6 +99,11 @@ public final class OutlookTest {
         HeardSecond last = Checks.courtOf("s1,s0,s0;9");
         duePlay("SIDE 1 has the last word", last, 4, 1, N);
         duePlay("SIDE 0 has it: 1 begins", last, 3, 2, 1);
+        HeardSecond e = Checks.courtOf("e0,s0;9");
+        duePlay("the WALL is not planted in two", e, 2, 1, N);
+        duePlay("the WALL is planted, and answered", e, 3, 2, 0);
+        duePlay("SIDE 1 has nobody", e, 4, 2, 0);
+        duePlay("it can be done later: nobody", e, 5, 2, N);
         HeardSecond f = Checks.courtOf("f1,s0,s0,s0,m0;9");
         duePlay("even for SIDE 1 its FRIEND speaks for SIDE 0", f, 2, 1, N);
     }
@@ -216,6 +221,7 @@ public final class OutlookTest {
         C.due("two who alternate are told apart from the second on", Checks.courtOf("s0,s1;9").when(), 2);
         C.due("one row alone: the first look is as good", Checks.spoken("s0,s1;9", 0).when(), 1);
         C.due("ECHOERS: nobody is believed at any time", Checks.courtOf("e0,e1,e0;9").when(), 1);
+        C.due("SPEAKER and ECHOER: of 21 rows are left 21, 16, 15, 15, 16, 13", Checks.courtOf("s0,e1;9").when(), 6);
         C.due("nobody else can speak", Checks.courtOf("s0,m1;9").when(), N);
         C.due("nobody counts", Checks.courtOf("m0,w1;9").when(), N);
         HeardSecond x = Checks.courtOf("s0,s1,s0;9");
