@@ -798,7 +798,6 @@ public final class HeardSecond {
 
         /** Fills for 1 to 6 words and each last one behind them in how many ways the row goes on to 6. */
         private void fillEndings() {
-            fill(endings, 0);
             for (int last = NONE; last <= WALL; last++) {
                 put(endings, rowPlace(MOST_ROW_WORDS, last), 1);
             }

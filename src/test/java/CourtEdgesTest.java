@@ -461,7 +461,9 @@ public final class CourtEdgesTest {
 
     private static void anotherCourt() {
         C.sentence("(another one is gone, with all that was)");
-        HeardSecond x = Checks.breathed("s0,s1,s0,s1,w0;2", 1, 2, 0, 0, 2, 1, 12, 0);
+        HeardSecond x = Checks.breathed("s0,s1,s0,s1,w0;2", 1, 2, 0, 0, 2, 1, 0, 0, 0, 0, 2, 1, 12, 0);
+        C.cases("each SIDE won, and nobody did", x, 3, 1, 1);
+        C.stands("a CASE goes on", x, 0, 0, 1);
         for (int told = 0; told < 8; told++) {
             x.hear(told, 4);
         }

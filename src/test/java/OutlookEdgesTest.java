@@ -172,6 +172,14 @@ public final class OutlookEdgesTest {
             new int[] {1, 1, 1, 0, 0, 0}, new int[] {N, N, N, N, N, N});
         duePlays("nobody can", Checks.courtOf("m0,m1;9"),
             new int[] {1, 1, 1, 1, 1, 1}, new int[] {N, N, N, N, N, N});
+        duePlays("the WALL is answered", Checks.courtOf("e0,s0;9"),
+            new int[] {1, 1, 2, 2, 2, 2}, new int[] {N, N, 0, 0, N, N});
+        duePlays("the WALL was the LAST one", Checks.spoken("e0,s0,s1;9", 0),
+            new int[] {2, 0, 2, 0, 2, 0}, new int[] {1, N, N, N, N, N});
+        duePlays("the LAST one is not BELIEVED", Checks.spoken("s0,s1;9", 0),
+            new int[] {1, 0, 1, 0, 1, 0}, new int[] {N, N, N, N, N, N});
+        duePlays("the LAST one is the FRIEND of who is BELIEVED", Checks.spoken("m0,s1,m1,f0,w0;9", 1, 3),
+            new int[] {2, 0, 0, 0, 0, 0}, new int[] {4, N, N, N, N, N});
     }
 
     private static void playWorth() {
@@ -268,6 +276,11 @@ public final class OutlookEdgesTest {
             }
             C.due("WHEN, HEARD of " + told, x.when(), told <= 6 ? N : 6);
         }
+        HeardSecond last = Checks.spoken("s0,s1;9", 0);
+        last.hear(0, N);
+        dueRows("nobody is BELIEVED, though one is the LAST one", last, 0, 1, 1);
+        last.hear(0, 0);
+        dueRows("the LAST one is not BELIEVED", last, 0, 0, 0);
         HeardSecond all = Checks.courtOf("s0,s1;9");
         int[] heard = {N, N, 1, 0, 1, 0, 1};
         for (int words = 0; words <= 6; words++) {
@@ -338,6 +351,7 @@ public final class OutlookEdgesTest {
         dueLeft("s0,w0,w0,s0;9", 4, 140, 41, 36, 35, 36, 41);
         dueLeft("s0,w0,s0;9", 5, 64, 32, 24, 24, 22, 22);
         dueLeft("e0,s0;9", 6, 21, 16, 15, 15, 16, 13);
+        dueLeft("f0,m0,m0,m0,s0;9", 1, 2, 2, 2, 2, 2, 2);
         dueLeft("s0,s1,s0,s1,s0;9", 2, 5120, 1024, 1024, 1024, 1024, 1024);
     }
 

@@ -65,7 +65,8 @@ public final class WholeEdgesTest {
         keeps("CASES that SIDE 0 won", text, new int[] {2, 1, 0, 0}, 0, new int[] {2, 1, 0, 0});
         keeps("CASES that SIDE 1 won", text, new int[] {1, 2, 0, 0}, 0, new int[] {1, 2, 0, 0});
         keeps("WORDS", text, new int[] {1, 1, 2, 4, 16}, 0, new int[] {1, 2, 4, 8, 16});
-        keeps("HEARD", text, new int[] {1}, 5, new int[] {2});
+        keeps("HEARD", text, new int[] {1}, 1, new int[] {2});
+        keeps("much HEARD", text, new int[] {1}, 5, new int[] {2});
         keeps("as much HEARD as can be", text, new int[] {}, 8, new int[] {2, 0, 0});
     }
 
@@ -74,8 +75,8 @@ public final class WholeEdgesTest {
         HeardSecond x = Checks.breathed(text, ahead);
         HeardSecond twin = Checks.breathed(text, ahead);
         for (int some = 0; some < told; some++) {
-            x.hear(some % 3, N);
-            twin.hear(some % 3, N);
+            x.hear(2 - some % 3, N);
+            twin.hear(2 - some % 3, N);
         }
         C.due(what + ": image()", x.image(), ahead.length);
         C.due(what + ": behind image()", x.digest(), twin.digest());
