@@ -20,6 +20,7 @@ public final class CourtEdgesTest {
         walls();
         near();
         notCounting();
+        justOne();
         moreThanOne();
         silence();
         silenceInARow();
@@ -37,6 +38,11 @@ public final class CourtEdgesTest {
     }
 
     private static void newObject() {
+        C.sentence("At first there is none.");
+        HeardSecond typed = Checks.pageOf("s0,s1;9");
+        C.due("a COURT that is not read: SEATS", typed.count(0), 0);
+        C.due("a COURT that is not read: breath(0)", typed.breath(0), S);
+        C.due("it is read", typed.court(), 2);
         C.sentence("`HeardSecond()`: No COURT.");
         HeardSecond x = new HeardSecond();
         C.due("SEATS", x.count(0), 0);
@@ -54,7 +60,7 @@ public final class CourtEdgesTest {
     // ---- a COURT as a text
 
     private static void seatsOfACourt() {
-        C.sentence("two to five SEATS (numbered from 0)");
+        C.sentence("A COURT is a text: two to five SEATS (numbered from 0)");
         C.due("one SEAT: fault()", Checks.pageOf("s0;1").fault(), 2);
         C.due("one SEAT: court()", Checks.pageOf("s0;1").court(), S);
         for (int seats = 2; seats <= 5; seats++) {
@@ -103,7 +109,8 @@ public final class CourtEdgesTest {
     }
 
     private static void patienceOfACourt() {
-        C.sentence("and a digit PATIENCE (1 to 9).");
+        C.sentence("; then \";\" and a digit PATIENCE (1 to 9).");
+        sweep("s0,s1,s0", ",;");
         sweep("s0,s1;", "123456789");
         sweep("s0,s1,s0,s1,s0;", "123456789");
         for (int patience = 1; patience <= 9; patience++) {
@@ -117,7 +124,7 @@ public final class CourtEdgesTest {
     }
 
     private static void kinds() {
-        C.sentence("0 SPEAKER \"s\", 1 WHISPERER \"w\", 2 ECHOER \"e\", 3 FRIEND \"f\", 4 MUTE \"m\".");
+        C.sentence("KINDS are told by the letter: 0 SPEAKER \"s\", 1 WHISPERER \"w\", 2 ECHOER \"e\", 3 FRIEND \"f\", 4 MUTE \"m\".");
         for (int kind = 0; kind < 5; kind++) {
             char letter = "swefm".charAt(kind);
             C.due("KIND of " + letter, Checks.courtOf(letter + "0,s1;1").seat(0, 0), kind);
@@ -136,7 +143,8 @@ public final class CourtEdgesTest {
     // ---- a CASE, BREATH by BREATH
 
     private static void atFirst() {
-        C.sentence("(a SEAT, or the WALL; at first nobody), and who is BELIEVED (at first nobody); some are OUT (at first nobody).");
+        C.sentence("In a CASE there is the LAST one who spoke (a SEAT, or the WALL; at first nobody), "
+            + "and who is BELIEVED (at first nobody); some are OUT (at first nobody).");
         for (int seats = 2; seats <= 5; seats++) {
             HeardSecond x = Checks.courtOf(Checks.courtText(SPEAKERS[seats], 1));
             C.stands("at first", x, N, N, 0);
@@ -276,7 +284,7 @@ public final class CourtEdgesTest {
     }
 
     private static void notCounting() {
-        C.sentence("Of these those who are OUT do not count, nor a MUTE one;");
+        C.sentence("In a BREATH some open their mouths. Of these those who are OUT do not count, nor a MUTE one;");
         HeardSecond x = Checks.breathed("s0,s1,m0,s1;9", 3);
         C.due("just 3 would count", Checks.counting(x), 8);
         C.due("all open their mouths", x.breath(15), 1);
@@ -290,6 +298,26 @@ public final class CourtEdgesTest {
         C.due("they are not OUT", Checks.out(m), 0);
         HeardSecond near = Checks.spoken("s0,m1;9", 0);
         C.due("a MUTE one beside the LAST one", near.breath(2), 0);
+    }
+
+    /** Of five, 0 and 1 are OUT, 2 is MUTE, 3 has nobody near: whoever opens his mouth besides, just 4 can count. */
+    private static void justOne() {
+        C.sentence("If just one counts, he speaks a WORD:");
+        for (int who = 0; who < 32; who++) {
+            HeardSecond x = Checks.breathed("s0,s1,m0,w1,s0;9", 3);
+            int words = who >> 4;
+            C.due("breath(" + who + ")", x.breath(who), words);
+            C.stands("behind breath(" + who + ")", x, words == 1 ? 4 : N, N, 1 - words);
+            for (int seat = 0; seat < 5; seat++) {
+                C.due("WORDS of " + seat + " behind breath(" + who + ")", x.seat(seat, 4), seat == 4 ? words : 0);
+            }
+            C.due("OUT behind breath(" + who + ")", Checks.out(x), 3);
+        }
+        HeardSecond many = Checks.breathed("s0,s1,s0;9", 1, 1, 1, 2, 5, 7);
+        int[] words = {3, 2, 0};
+        for (int seat = 0; seat < 3; seat++) {
+            C.due("all WORDS of " + seat, many.seat(seat, 4), words[seat]);
+        }
     }
 
     private static void moreThanOne() {
@@ -460,7 +488,7 @@ public final class CourtEdgesTest {
     }
 
     private static void anotherCourt() {
-        C.sentence("(another one is gone, with all that was)");
+        C.sentence("THE PAGE is read as THE COURT (another one is gone, with all that was)");
         HeardSecond x = Checks.breathed("s0,s1,s0,s1,w0;2", 1, 2, 0, 0, 2, 1, 0, 0, 0, 0, 2, 1, 12, 0);
         C.cases("each SIDE won, and nobody did", x, 3, 1, 1);
         C.stands("a CASE goes on", x, 0, 0, 1);
@@ -492,7 +520,8 @@ public final class CourtEdgesTest {
     }
 
     private static void seat() {
-        C.sentence("2 whether it is OUT (1, 0), 3 whether it would count now (1, 0), 4 how many WORDS it spoke, 5 GET (NONE).");
+        C.sentence("Of a SEAT: what = 0 KIND, 1 SIDE, 2 whether it is OUT (1, 0), 3 whether it would count now (1, 0), "
+            + "4 how many WORDS it spoke, 5 GET (NONE).");
         HeardSecond x = Checks.breathed("s0,s1,s0,m1;9", 1, 1, 5);
         int[][] due = {{0, 0, 1, 0, 2, N}, {0, 1, 0, 1, 0, 1}, {0, 0, 1, 0, 0, N}, {4, 1, 0, 0, 0, N}};
         for (int seat = 0; seat < 4; seat++) {
@@ -539,7 +568,8 @@ public final class CourtEdgesTest {
     }
 
     private static void breath() {
-        C.sentence("who opens his mouth (bits of SEATS): how many count. OUTSIDE: who (a bit that names no SEAT); STATE: no COURT.");
+        C.sentence("A BREATH: who opens his mouth (bits of SEATS): how many count. "
+            + "OUTSIDE: who (a bit that names no SEAT); STATE: no COURT.");
         for (int seats = 2; seats <= 5; seats++) {
             HeardSecond x = Checks.courtOf(Checks.courtText(SPEAKERS[seats], 9));
             long before = x.digest();

@@ -230,7 +230,7 @@ public final class HeardEdgesTest {
     }
 
     private static void sessionsDraws() {
-        C.sentence("1103515245 times it and 12345, its rest by 2 to the 31;");
+        C.sentence("DRAWS: the next SEED each time: 1103515245 times it and 12345, its rest by 2 to the 31;");
         HeardSecond x = Checks.courtOf("s0,s1;9");
         C.due("the least SEED", x.sessions(1, 0, 2), 1406932606);
         C.due("the next SEED is 2 to the 31 less 1", x.sessions(1, seedBehind(Integer.MAX_VALUE), 2), next(Integer.MAX_VALUE));

@@ -13,6 +13,7 @@ public final class OutlookEdgesTest {
         playBreaths();
         playTurns();
         playWorth();
+        playBest();
         playFirst();
         playRefused();
         rowsWords();
@@ -192,6 +193,21 @@ public final class OutlookEdgesTest {
         C.due("the WALL answered", Checks.spoken("s1,e0;9", 0).play(1, 0), 1);
     }
 
+    private static void playBest() {
+        C.sentence("each does its best: how much, and 1;");
+        HeardSecond none = Checks.spoken("e0,s1;9", 0, 1);
+        C.due("SIDE 0: nobody rather than SIDE 1", none.play(1, 0), 1);
+        C.due("SIDE 0: by the WALL", none.play(1, 1), 0);
+        C.due("SIDE 0: itself rather than nobody", Checks.spoken("e0,s1,s0;9", 0, 1).play(1, 1), 2);
+        C.due("SIDE 1: nobody rather than SIDE 0", Checks.spoken("s0,e1;9", 1, 0).play(2, 0), 1);
+        C.due("SIDE 1: itself rather than nobody", Checks.spoken("s0,e1,s1;9", 1, 0).play(2, 0), 0);
+        C.due("SIDE 1: itself, though a FRIEND of it is less", Checks.spoken("s0,f1,s1;9", 2, 0).play(2, 0), 0);
+        C.due("SIDE 1: rather silent than its FRIEND for SIDE 0", Checks.spoken("s0,f1;9", 0).play(2, 0), 1);
+        C.due("SIDE 1: rather silent than answered", Checks.spoken("s0,s1;9", 0).play(3, 0), 1);
+        C.due("SIDE 0: rather silent than answered", Checks.courtOf("s0,s1;9").play(2, 0), 1);
+        C.due("SIDE 0: not silent when it answers last", Checks.courtOf("s0,s1,s0;9").play(3, 0), 2);
+    }
+
     private static void playFirst() {
         C.sentence("what SIDE 0 does first: nobody, if that is as good, else the least SEAT.");
         C.due("nobody, as SIDE 0 is BELIEVED", Checks.spoken("s0,s1,s0;9", 1, 0).play(1, 1), N);
@@ -207,8 +223,11 @@ public final class OutlookEdgesTest {
     }
 
     private static void playRefused() {
-        C.sentence("1 who of SIDE 0 speaks first (NONE: nobody). OUTSIDE: breaths, what; STATE: no COURT.");
+        C.sentence("PLAY: what = 0 how much, and 1, 1 who of SIDE 0 speaks first (NONE: nobody). "
+            + "OUTSIDE: breaths, what; STATE: no COURT.");
         HeardSecond x = Checks.courtOf("s0,s1;9");
+        C.due("play(1, 0)", x.play(1, 0), 1);
+        C.due("play(1, 1)", x.play(1, 1), N);
         HeardSecond none = new HeardSecond();
         long before = x.digest();
         long beforeNone = none.digest();
@@ -305,8 +324,10 @@ public final class OutlookEdgesTest {
     }
 
     private static void rowsRefused() {
-        C.sentence("0 how many ways, 1 who can have been the LAST one, as bits. OUTSIDE: words, what; STATE: no COURT.");
+        C.sentence("ROWS: what = 0 how many ways, 1 who can have been the LAST one, as bits. "
+            + "OUTSIDE: words, what; STATE: no COURT.");
         HeardSecond x = Checks.courtOf("s0,s1;9");
+        dueRows("two SPEAKERS", x, 1, 2, 3);
         HeardSecond none = new HeardSecond();
         long before = x.digest();
         long beforeNone = none.digest();

@@ -14,10 +14,12 @@ public final class WholeEdgesTest {
         imageLatest();
         restoreRefused();
         countEdges();
+        countGoesOn();
         countRefused();
         digestEmpty();
         digestPage();
         digestWraps();
+        digestSeats();
         digestNumbers();
         C.end();
     }
@@ -128,7 +130,7 @@ public final class WholeEdgesTest {
     }
 
     private static void restoreRefused() {
-        C.sentence("how many BREATHS there were. STATE: none was kept, or there is another COURT since.");
+        C.sentence("It goes on from the IMAGE: how many BREATHS there were. STATE: none was kept, or there is another COURT since.");
         HeardSecond x = new HeardSecond();
         C.refused("no COURT", x, x.digest(), x.restore(), S);
         Checks.type(x, "s0,s1;9");
@@ -176,6 +178,51 @@ public final class WholeEdgesTest {
         x.breath(16);
         C.due("the WALL", x.count(2), 5);
         C.due("then nobody is BELIEVED", x.count(3), N);
+    }
+
+    /** What count() tells for 4 to 9, call by call. */
+    private static void countGoesOn() {
+        C.sentence(", 4 BREATHS of SILENCE in a row, 5 CASES that ended, 6 and 7 that SIDE 0, 1 won, 8 BREATHS, "
+            + "9 what was HEARD, 10 letters of THE PAGE, 11 how often a COURT was read.");
+        HeardSecond x = Checks.courtOf("s0,s1,s0;2");
+        tells("new", x, 0, 0, 0, 0, 0, 0);
+        breathes(x, 0, 1, 0, 0, 0, 1, 0);
+        breathes(x, 1, 0, 0, 0, 0, 2, 0);
+        breathes(x, 0, 1, 0, 0, 0, 3, 0);
+        breathes(x, 1, 0, 0, 0, 0, 4, 0);
+        breathes(x, 0, 1, 0, 0, 0, 5, 0);
+        breathes(x, 6, 0, 0, 0, 0, 6, 0);
+        breathes(x, 4, 1, 0, 0, 0, 7, 0);
+        x.hear(0, N);
+        tells("hear(0, NONE)", x, 1, 0, 0, 0, 7, 1);
+        breathes(x, 0, 0, 1, 0, 0, 8, 1);
+        breathes(x, 4, 0, 1, 0, 0, 9, 1);
+        breathes(x, 1, 0, 1, 0, 0, 10, 1);
+        breathes(x, 0, 1, 1, 0, 0, 11, 1);
+        breathes(x, 0, 0, 2, 1, 0, 12, 1);
+        x.hear(8, 2);
+        tells("hear(8, 2)", x, 0, 2, 1, 0, 12, 2);
+        breathes(x, 1, 0, 2, 1, 0, 13, 2);
+        breathes(x, 2, 0, 2, 1, 0, 14, 2);
+        breathes(x, 0, 1, 2, 1, 0, 15, 2);
+        breathes(x, 0, 0, 3, 1, 1, 16, 2);
+        x.breath(8);
+        tells("a refused breath()", x, 0, 3, 1, 1, 16, 2);
+        x.sessions(60, 1, 0);
+        tells("sessions()", x, 0, 3, 1, 1, 16, 2);
+        x.forget();
+        tells("forget()", x, 0, 3, 1, 1, 16, 0);
+    }
+
+    private static void breathes(HeardSecond x, int who, int... due) {
+        x.breath(who);
+        tells("breath(" + who + ")", x, due);
+    }
+
+    private static void tells(String call, HeardSecond x, int... due) {
+        for (int what = 4; what <= 9; what++) {
+            C.due("behind " + call + ": count(" + what + ")", x.count(what), due[what - 4]);
+        }
     }
 
     private static void countRefused() {
@@ -271,6 +318,32 @@ public final class WholeEdgesTest {
             numbers[at++] = x.count(what);
         }
         return numbers;
+    }
+
+    /** In courts where nobody counts one number alone is another one, and its place is told by what it adds. */
+    private static void digestSeats() {
+        C.sentence(": of each SEAT what seat() tells for 0 to 5, who first by get();");
+        // Behind the SEATS come 8 numbers by play(), 10 by rows(), 1 by when(), and 12 by count().
+        int behindSeats = 31;
+        for (int seats = 2; seats <= 5; seats++) {
+            String mute = "m0,m0,m0,m0,m0".substring(0, 3 * seats - 1);
+            long all = Checks.courtOf(mute + ";9").digest();
+            for (int seat = 0; seat < seats; seat++) {
+                int behind = behindSeats + 7 * (seats - 1 - seat);
+                long side = Checks.courtOf(seated(mute, seat, "m1")).digest();
+                C.due("the SIDE of " + seat + " of " + seats, side - all, power(behind + 5));
+                long kind = Checks.courtOf(seated(mute, seat, "w0")).digest();
+                C.due("the KIND of " + seat + " of " + seats, kind - all, -3 * power(behind + 6));
+            }
+        }
+        HeardSecond x = Checks.spoken("m0,s0;9", 1);
+        long before = x.digest();
+        x.breath(2);
+        C.due("WORDS of 1, and BREATHS", x.digest() - before, power(behindSeats + 2) + power(3));
+    }
+
+    private static String seated(String court, int seat, String who) {
+        return court.substring(0, 3 * seat) + who + court.substring(3 * seat + 2) + ";9";
     }
 
     private static void digestNumbers() {
