@@ -211,6 +211,10 @@ public final class HeardEdgesTest {
         C.due("a CASE that ended ahead", won.count(6), 1);
         C.due("it is none of these", won.sessions(1, silent, 0), 1);
         C.due("nor is who won it", won.sessions(1, silent, 1), 0);
+        HeardSecond ahead = Checks.breathed("s0,s1;1", 0, 2, 1, 0, 1, 2, 0, 2, 1);
+        C.cases("lost to both, to SIDE 1, to SIDE 0", ahead, 3, 1, 1);
+        C.due("three CASES ahead: one more ends", ahead.sessions(1, silentSeed(2, 1), 0), 1);
+        C.due("three CASES ahead: SIDE 0 wins the one", ahead.sessions(1, silentSeed(2, 1), 1), 1);
     }
 
     /** A seed by which nobody opens its mouth for so many breaths. */

@@ -1,3 +1,5 @@
+import java.util.Arrays;
+
 /** Promises 9, 10, 13, 14 and the terms they stand on, edge by edge: each told by the document's own words. */
 public final class OutlookEdgesTest {
     private static final int N = HeardSecond.NONE, U = HeardSecond.UNKNOWN, O = HeardSecond.OUTSIDE, S = HeardSecond.STATE;
@@ -181,6 +183,11 @@ public final class OutlookEdgesTest {
             new int[] {1, 0, 1, 0, 1, 0}, new int[] {N, N, N, N, N, N});
         duePlays("the LAST one is the FRIEND of who is BELIEVED", Checks.spoken("m0,s1,m1,f0,w0;9", 1, 3),
             new int[] {2, 0, 0, 0, 0, 0}, new int[] {4, N, N, N, N, N});
+        HeardSecond whispered = Checks.spoken("e1,m1,m0,w1,s0;9", 0, 4);
+        C.due("4 of five is BELIEVED, and near is one who WHISPERS behind him", whispered.play(2, 0), 0);
+        HeardSecond friend = Checks.spoken("f0,w1,e0,m1,m0;9", 2, 0);
+        C.due("4 of five is BELIEVED by his FRIEND 0, and near 0 is one who WHISPERS", friend.play(2, 0), 1);
+        C.due("SIDE 0 has rather the WALL answer", friend.play(2, 1), 2);
     }
 
     private static void playWorth() {
@@ -264,6 +271,13 @@ public final class OutlookEdgesTest {
         int[] speakers = {1, 5, 20, 80, 320, 1280, 5120};
         for (int words = 0; words <= 6; words++) {
             dueRows("five SPEAKERS", Checks.courtOf("s0,s1,s0,s1,s0;9"), words, speakers[words], words == 0 ? 64 : 31);
+        }
+        int[] behindLast = {1, 4, 16, 64, 256, 1024, 4096};
+        for (int words = 0; words <= 6; words++) {
+            dueRows("five SPEAKERS, 3 is LAST and BELIEVED", Checks.spoken("s0,s1,s0,s1,s0;9", 1, 3), words,
+                behindLast[words], words == 0 ? 8 : words == 1 ? 23 : 31);
+            dueRows("five SPEAKERS, 2 is LAST, 1 is BELIEVED", Checks.spoken("s0,s1,f0,s1,s0;9", 1, 2), words,
+                behindLast[words], words == 0 ? 4 : words == 1 ? 27 : 31);
         }
         int[] lasts = {64, 3, 3, 3, 3, 3, 3};
         for (int words = 0; words <= 6; words++) {
@@ -349,18 +363,32 @@ public final class OutlookEdgesTest {
 
     // ---- WHEN
 
-    /** How many ROWS of 6 are left at worst by each look is asked by HEARD and ROWS. */
     private static void dueLeft(String text, int when, int... left) {
-        HeardSecond x = Checks.courtOf(text);
-        C.due(text + ": when()", x.when(), when);
+        dueLeftThen(text, new int[] {}, new int[] {}, when, left);
+    }
+
+    /** How many ROWS of 6 are left at worst by each look is asked by HEARD and ROWS. */
+    private static void dueLeftThen(String text, int[] spoken, int[] heard, int when, int... left) {
+        HeardSecond x = Checks.spoken(text, spoken);
+        hearAll(x, heard);
+        String then = text + ", spoken " + Arrays.toString(spoken) + ", HEARD " + Arrays.toString(heard);
+        C.due(then + ": when()", x.when(), when);
         for (int words = 1; words <= 6; words++) {
             int worst = 0;
             for (int seat = N; seat < x.count(0); seat++) {
                 x.hear(words, seat);
                 worst = Math.max(worst, x.rows(6, 0));
                 x.forget();
+                hearAll(x, heard);
             }
-            C.due(text + ": left at worst by a look behind " + words, worst, left[words - 1]);
+            C.due(then + ": left at worst by a look behind " + words, worst, left[words - 1]);
+        }
+    }
+
+    /** What was heard is told by pairs: behind how many words, and who. */
+    private static void hearAll(HeardSecond x, int[] heard) {
+        for (int place = 0; place < heard.length; place += 2) {
+            x.hear(heard[place], heard[place + 1]);
         }
     }
 
@@ -374,6 +402,37 @@ public final class OutlookEdgesTest {
         dueLeft("e0,s0;9", 6, 21, 16, 15, 15, 16, 13);
         dueLeft("f0,m0,m0,m0,s0;9", 1, 2, 2, 2, 2, 2, 2);
         dueLeft("s0,s1,s0,s1,s0;9", 2, 5120, 1024, 1024, 1024, 1024, 1024);
+        // MUTE ones ahead change nothing, as they stand beside nobody who WHISPERS.
+        dueLeft("m0,m0,m0,s0,s0;9", 2, 2, 1, 1, 1, 1, 1);
+        dueLeft("m0,s0,w0,w0,s0;9", 4, 140, 41, 36, 35, 36, 41);
+        dueLeft("m0,m0,s0,w0,s0;9", 5, 64, 32, 24, 24, 22, 22);
+        dueLeft("m0,m0,m0,e0,s0;9", 6, 21, 16, 15, 15, 16, 13);
+        whenFromNow();
+        whenHeard();
+    }
+
+    private static void whenFromNow() {
+        int[] none = {};
+        dueLeftThen("s0,s1;9", new int[] {1}, none, 1, 1, 1, 1, 1, 1, 1);
+        dueLeftThen("s0,w1;9", new int[] {0, 1}, none, 1, 1, 1, 1, 1, 1, 1);
+        dueLeftThen("s0,s1,s0;9", new int[] {2}, none, 5, 32, 32, 24, 24, 22, 22);
+        dueLeftThen("f0,e1;9", new int[] {1, 0}, none, 2, 13, 8, 10, 9, 10, 8);
+        dueLeftThen("f0,s1,f0;9", new int[] {2, 1}, none, 1, 32, 48, 40, 44, 42, 43);
+        dueLeftThen("s0,s1,s0,s1,s0;9", new int[] {1, 3}, none, 5, 1024, 1024, 832, 832, 820, 820);
+    }
+
+    private static void whenHeard() {
+        int[] none = {};
+        dueLeftThen("s0,s1;9", none, new int[] {5, 0}, 1, 1, 1, 1, 1, 1, 1);
+        dueLeftThen("s0,s1;9", new int[] {1}, new int[] {1, 0}, 1, 1, 1, 1, 1, 1, 1);
+        dueLeftThen("s0,e1;9", new int[] {1}, new int[] {4, 0, 6, 0, 1, 0}, 1, 1, 1, 1, 1, 1, 1);
+        dueLeftThen("e0,s1;9", none, new int[] {5, 1}, 3, 5, 4, 3, 5, 5, 5);
+        dueLeftThen("f0,e1;9", none, new int[] {6, 1}, 4, 8, 6, 6, 5, 8, 8);
+        dueLeftThen("s0,s1,s0;9", new int[] {2, 1}, new int[] {1, 2}, 6, 32, 16, 16, 12, 12, 11);
+        dueLeftThen("e0,s1;9", new int[] {1, 0}, new int[] {1, 1, 3, 1}, 5, 3, 3, 3, 3, 2, 2);
+        dueLeftThen("f0,s1,e0;9", new int[] {2}, new int[] {2, 1}, 6, 29, 58, 34, 28, 30, 24);
+        dueLeftThen("e0,s1,s0;9", new int[] {2}, new int[] {4, N}, 3, 49, 42, 35, 84, 36, 36);
+        dueLeftThen("e0,s1,s0;9", new int[] {2}, new int[] {4, N, 7, 2, 8, N}, 3, 49, 42, 35, 84, 36, 36);
     }
 
     private static void whenLikeOnes() {
@@ -392,6 +451,8 @@ public final class OutlookEdgesTest {
         C.due("nobody counts", Checks.courtOf("m0,m1;9").when(), N);
         C.due("ROWS of 1 alone", Checks.courtOf("s0,m1;9").when(), N);
         C.due("all are OUT", Checks.breathed("s0,s1;9", 3).when(), N);
+        C.due("one is LAST and BELIEVED, all are OUT", Checks.breathed("s0,s1;9", 1, 2, 3).when(), N);
+        C.due("one is LAST, the others are MUTE", Checks.spoken("m0,m1,s0;9", 2).when(), N);
         HeardSecond x = Checks.courtOf("s0,s1;9");
         x.hear(6, N);
         C.due("by what was HEARD: ROWS of 5", x.rows(5, 0), 2);
